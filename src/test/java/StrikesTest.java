@@ -202,6 +202,10 @@ public final class StrikesTest {
         Due.is("what 1, too", x.night(0, 2, 0, 2, 1), -1);
         Due.is("fault()", x.fault(), 0);
         Due.is("what is not told is not looked at", x.night(0, 2, 0, 1, 1), 0);
+        Due.row(x, 0, 2, 0, 0, 0, 4, 0, 0);
+        Due.is("the second pair's second alone", x.night(0, 2, 0, 3, 0), -2);
+        Due.row(x, 0, 2, 0, 0, 0, 0, 3, 0);
+        Due.is("the third pair's first alone", x.night(0, 2, 0, 3, 0), -1);
         Due.row(x, 0, 2, 0, -1);
         Due.is("below 0", x.night(0, 2, 0, 1, 0), -2);
         Due.row(x, 0, 2, 2, 3);
