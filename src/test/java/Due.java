@@ -17,6 +17,12 @@ final class Due {
         }
     }
 
+    /** A call that names faults, and what fault() answers behind it. */
+    static void is(StampRaids x, String call, long got, long want, int fault) {
+        is(call, got, want);
+        is("fault() behind " + call, x.fault(), fault);
+    }
+
     static void end() {
         System.out.println(right + " answers as due, " + wrong + " not");
         if (wrong != 0) {
