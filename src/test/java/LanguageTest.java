@@ -74,9 +74,17 @@ public final class LanguageTest {
                 face.add(method.getName());
             }
         }
-        for (Method method : StampRaids.class.getDeclaredMethods()) {
+        methods(StampRaids.class, face);
+        for (Class<?> one : inside) {
+            methods(one, face);
+        }
+    }
+
+    private static void methods(Class<?> one, Set<String> face) {
+        for (Method method : one.getDeclaredMethods()) {
             boolean hidden = Modifier.isPrivate(method.getModifiers());
             Due.is(method + " bears a public name", hidden && face.contains(method.getName()) ? 1 : 0, 0);
+            Due.is("at most seven parameters of " + method, method.getParameterCount() <= 7 ? 1 : 0, 1);
         }
     }
 

@@ -10,6 +10,7 @@ public final class WarEdgesTest {
         newObjectHasNoRules();
         newSheetsHaveNothing();
         newTraceAndFaultAreNone();
+        newObjectBesideAnother();
         textOfNoCodes();
         textOfNoPerson();
         textOfOnePerson();
@@ -109,6 +110,21 @@ public final class WarEdgesTest {
         StampRaids x = new StampRaids();
         Due.is("trace()", x.trace(), 0);
         Due.is("fault()", x.fault(), 0);
+    }
+
+    private static void newObjectBesideAnother() {
+        StampRaids x = Due.begun(SIX);
+        x.tell(0);
+        x.reading(0, 5);
+        x.cell(3, 0, 1);
+        StampRaids y = new StampRaids();
+        Due.is("many(0)", y.many(0), 0);
+        Due.is("many(3)", y.many(3), 0);
+        Due.is("trace()", y.trace(), 0);
+        Due.is("fault()", y.fault(), 0);
+        Due.is("lose(3)", y.lose(3), 0);
+        Due.is("lose(3) of the one ahead", x.lose(3), 1);
+        Due.is("trace() of the one ahead", x.trace(), 1);
     }
 
     // ---- 2: the text
